@@ -392,7 +392,7 @@ public final class ShareStore {
         return holders;
     }
 
-    /** Whether a NODE is FRESH for an OBJECT whose NEWEST VERSION is told, so that many NODES need it made out but once. */
+    /** Whether a NODE is FRESH for an OBJECT, the NEWEST VERSION told: so a look at all NODES makes it out but once. */
     private boolean isFresh(int node, int object, int newest) {
         return newest > 0 && nodes[node].live && nodes[node].records[object].version == newest;
     }

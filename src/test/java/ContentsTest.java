@@ -175,6 +175,20 @@ public final class ContentsTest {
         store.fail(3);
         Stores.feed(store, 5, 1);
         Check.due("7: eight for seven", store.put(4), FULL);
+        for (int last = 0; last < 12; last += 11) {
+            store = new ShareStore();
+            for (int object = 0; object < 5; object++) {
+                Stores.put(store, object, object, 240);
+            }
+            for (int node = 0; node < 12; node++) {
+                if (node != last) {
+                    store.wipe(node);
+                }
+            }
+            Check.due("7: node " + last + " alone without room", Stores.put(store, 5, 5, 1), FULL);
+            store.fail(last);
+            Check.due("7: which does not count when failed", store.put(5), 1);
+        }
     }
 
     private static void promise8() {
@@ -219,7 +233,10 @@ public final class ContentsTest {
         Stores.cutPut(store, 0, 2, 30, 12);
         Check.due("9: shadows alone", store.settle(0), 0);
         Check.due("9: the old version stays", store.version(0), 1);
-        Check.due("9: shadows are given up", store.free(7), 39);
+        for (int node = 0; node < 12; node++) {
+            Check.due("9: the shadow of " + node + " is given up", store.record(node, 0, 3), NONE);
+            Check.due("9: and its block", store.free(node), 39);
+        }
         Check.due("9: settled", store.settle(0), NO);
         Stores.cutPut(store, 0, 3, 60, 13);
         Check.due("9: one flip is enough", store.settle(0), 1);

@@ -182,7 +182,14 @@ public final class NodesTest {
         store.remove(0);
         Check.due("17: few for the other object", store.rebuild(2, ALL), FEW);
         store.remove(3);
-        Check.due("17: removed ones need none", store.rebuild(2, 0), 0);
+        Check.due("17: fresh by messages", store.rebuild(2, 0), 0);
+        for (int object = 0; object < 6; object += 5) {
+            store = new ShareStore();
+            Stores.put(store, object, 1, 61);
+            store.wipe(4);
+            Check.due("17: few for object " + object, store.rebuild(4, 0xFF), FEW);
+            Check.due("17: enough for object " + object, store.rebuild(4, 0xFF0 | 1), 24);
+        }
     }
 
     private static void promise17Versions() {
@@ -204,7 +211,35 @@ public final class NodesTest {
         Check.due("17: new", store.block(6, 2, 1, false), 2);
         Check.due("17: open", store.record(6, 3, 0), NONE);
         Check.due("17: free", store.free(6), 37);
+        // Its blocks held other bytes before, which must be gone.
+        for (int i = 0; i < 8; i++) {
+            Check.due("17: byte " + i + " of object 0", store.byteOf(6, 0, i),
+                Model.shareByte(6, Stores.contents(3, 5), 0, i));
+            Check.due("17: byte " + i + " of object 2", store.byteOf(6, 2, i),
+                Model.shareByte(6, Stores.contents(4, 35), 1, i));
+        }
         promise17NewerThanTheNewest();
+        promise17NothingToSend();
+    }
+
+    private static void promise17NothingToSend() {
+        ShareStore store = new ShareStore();
+        Stores.put(store, 0, 1, 61);
+        store.fail(6);
+        store.remove(0);
+        store.back(6);
+        Check.due("17: a removed one needs no helpers", store.rebuild(6, 0), 0);
+        Check.due("17: removed", store.record(6, 0, 0), 2);
+        Check.due("17: fresh", store.fresh(6, 0), 1);
+        Check.due("17: given up", store.free(6), 40);
+        store = new ShareStore();
+        Stores.put(store, 0, 1, 61);
+        for (int node = 4; node < 12; node++) {
+            store.wipe(node);
+        }
+        Check.due("17: without a newest version", store.rebuild(0, ALL), 0);
+        Check.due("17: the record stays", store.record(0, 0, 0), 1);
+        Check.due("17: with its blocks", store.free(0), 37);
     }
 
     /** A node alone with a version that was taken while few were live goes back to the one that is newest. */
@@ -250,6 +285,22 @@ public final class NodesTest {
         store.wipe(7);
         Check.due("17: just 40", store.rebuild(7, ALL), 8 * 40);
         Check.due("17: none free", store.free(7), 0);
+        promise17RoomByGivingUp();
+    }
+
+    private static void promise17RoomByGivingUp() {
+        ShareStore store = new ShareStore();
+        for (int object = 0; object < 5; object++) {
+            Stores.put(store, object, object, 240);
+        }
+        store.fail(7);
+        store.remove(2);
+        Stores.put(store, 2, 9, 220);
+        store.back(7);
+        Check.due("17: none free before", store.free(7), 0);
+        Check.due("17: the old record makes room", store.rebuild(7, ALL), 64);
+        Check.due("17: none free behind it", store.free(7), 0);
+        Check.due("17: bytes", store.record(7, 2, 1), 220);
     }
 
     private static void promise18() {
@@ -448,7 +499,13 @@ public final class NodesTest {
         }
         store.settle(1);
         Check.due("25: settled", store.count(4), 1);
-        Check.due("25: by no messages", store.count(2), 41);
+        store.remove(0);
+        Check.due("25: spent on a remove", store.count(5), NONE);
+        Check.due("25: the first object is open, too", store.count(4), 2);
+        Check.due("25: messages of the cut one", store.count(2), 41 + 9);
+        store.settle(0);
+        store.cut(9);
+        Check.due("25: settled by no messages", store.count(2), 41 + 9);
         store.put(4);
         Check.due("25: spent", store.count(5), NONE);
     }

@@ -7,7 +7,7 @@ public final class ShareStore {
     private static final int NODES = 12, OBJECTS = 6, BLOCKS = 40;
     // One number for what must be alike: bytes of a ROW, of a SHARE and of a BLOCK, and HELPERS of a lost NODE.
     private static final int WIDTH = 8;
-    // NODES that give all back; also the side of the MATRIX's corner that is not 0 below the diagonal's mirror.
+    // NODES that give all back; they are as many as the MATRIX has rows before those with zeros at their end.
     private static final int ENOUGH = 5;
     private static final int STRIPE_BYTES = 30, STRIPES = 8, CONTENT_BYTES = 240;
     private static final int LIVE_TO_PUT = 9, CUTS = 24, WORD_BYTES = 8;

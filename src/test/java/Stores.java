@@ -19,11 +19,15 @@ final class Stores {
     }
 
     static void feed(ShareStore store, int number, int bytes) {
-        for (int i = 0; i < bytes; i += 8) {
-            int n = Math.min(8, bytes - i);
+        feed(store, contents(number, bytes));
+    }
+
+    static void feed(ShareStore store, int[] contents) {
+        for (int i = 0; i < contents.length; i += 8) {
+            int n = Math.min(8, contents.length - i);
             long w = 0;
             for (int k = 0; k < n; k++) {
-                w = w << 8 | byteOf(number, i + k);
+                w = w << 8 | contents[i + k];
             }
             store.feed(w, n);
         }
@@ -40,6 +44,11 @@ final class Stores {
         return store.put(object);
     }
 
+    static int cutRemove(ShareStore store, int object, int behind) {
+        store.cut(behind);
+        return store.remove(object);
+    }
+
     static void fail(ShareStore store, int... nodes) {
         for (int node : nodes) {
             store.fail(node);
@@ -52,6 +61,51 @@ final class Stores {
         }
     }
 
+    static void wipe(ShareStore store, int... nodes) {
+        for (int node : nodes) {
+            store.wipe(node);
+        }
+    }
+
+    /** A new store in which an object has the contents of a number. */
+    static ShareStore holding(int object, int number, int bytes) {
+        ShareStore store = new ShareStore();
+        put(store, object, number, bytes);
+        return store;
+    }
+
+    /** A new store in which objects 0 .. 4 take up every block of every node. */
+    static ShareStore crammed() {
+        ShareStore store = new ShareStore();
+        for (int object = 0; object < 5; object++) {
+            put(store, object, object, 240);
+        }
+        return store;
+    }
+
+    /** A store in the midst of its work: of all that a call could change there is something. */
+    static ShareStore busy() {
+        ShareStore store = holding(0, 1, 31);
+        put(store, 1, 2, 95);
+        store.remove(2);
+        cutPut(store, 3, 3, 40, 15);
+        store.get(1, ALL);
+        store.wipe(4);
+        store.rebuild(4, ALL);
+        store.fail(7);
+        store.wipe(9);
+        feed(store, 5, 12);
+        store.cut(6);
+        return store;
+    }
+
+    /** The busy store with eight live nodes. */
+    static ShareStore busyWithEight() {
+        ShareStore store = busy();
+        fail(store, 9, 10, 11);
+        return store;
+    }
+
     static void dueGot(String call, ShareStore store, int number, int bytes) {
         for (int i = 0; i < bytes; i++) {
             Check.due(call + ", then got(" + i + ")", store.got(i), byteOf(number, i));
@@ -59,19 +113,28 @@ final class Stores {
         Check.due(call + ", then got(" + bytes + ")", store.got(bytes), ShareStore.NONE);
     }
 
-    /** In one number, of few calls, what a refused call must leave as it was. */
-    static long state(ShareStore store) {
-        long h = store.digest();
+    /** That a node has for an object, as its record, the shares of the contents of a number. */
+    static void dueShares(String call, ShareStore store, int node, int object, int number, int bytes) {
+        int[] contents = contents(number, bytes);
+        for (int s = 0; s < (bytes + 29) / 30; s++) {
+            int block = store.block(node, object, s, false);
+            for (int c = 0; c < 8; c++) {
+                Check.due(call + ": byte " + c + " of the share of stripe " + s + " at " + node,
+                    store.byteOf(node, block, c), Model.shareByte(node, contents, s, c));
+            }
+        }
+    }
+
+    static void dueRecord(String call, ShareStore store, int node, int object, int... due) {
         for (int what = 0; what < 6; what++) {
-            h = 37 * h + store.count(what);
+            Check.due(call + ": record(" + node + ", " + object + ", " + what + ")", store.record(node, object, what),
+                due[what]);
         }
-        for (int i = 0; i < 4; i++) {
-            h = 37 * h + store.got(i);
+    }
+
+    static void dueSent(String call, ShareStore store, int... due) {
+        for (int node = 0; node < 12; node++) {
+            Check.due(call + ": sent(" + node + ")", store.sent(node), due[node]);
         }
-        for (int object = 0; object < 6; object++) {
-            h = 37 * h + store.version(object);
-            h = 37 * h + store.open(object);
-        }
-        return h;
     }
 }

@@ -472,17 +472,17 @@ public final class ShareStore {
         }
         for (int s = 0; s < stripesOf(bytes); s++) {
             coder.load(tape, s * STRIPE_BYTES, bytes);
-            fillShadows(object, s, most);
+            fillShadows(object, s);
         }
     }
 
-    private void fillShadows(int object, int s, int most) {
-        int left = most;
-        for (int i = 0; i < NODES && left > 0; i++) {
-            if (nodes[i].live) {
+    /** Writes the SHARES of the STRIPE in the MATRIX; a LIVE NODE that got no message has no place for one. */
+    private void fillShadows(int object, int s) {
+        for (int i = 0; i < NODES; i++) {
+            int place = nodes[i].live ? nodes[i].shadows[object].placeOf(s) : NONE;
+            if (place != NONE) {
                 coder.share(i, wire);
-                nodes[i].write(nodes[i].shadows[object].placeOf(s), wire);
-                left--;
+                nodes[i].write(place, wire);
             }
         }
     }

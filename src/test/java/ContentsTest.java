@@ -433,6 +433,9 @@ public final class ContentsTest {
         ShareStore store = Stores.holding(0, 1, 30);
         Stores.cutPut(store, 0, 3, 60, 13);
         Check.due("settle", store.settle(0), 1);
+        for (int node = 0; node < 12; node++) {
+            Stores.dueRecord("taken", store, node, 0, 2, 60, 2, NONE, NONE, NONE);
+        }
         Check.due("version(0)", store.version(0), 2);
         Check.due("get", store.get(0, ALL), 60);
         Stores.dueGot("get", store, 3, 60);
@@ -442,6 +445,9 @@ public final class ContentsTest {
         ShareStore store = Stores.holding(0, 1, 30);
         Stores.cutPut(store, 0, 3, 60, 12);
         Check.due("settle", store.settle(0), 0);
+        for (int node = 0; node < 12; node++) {
+            Stores.dueRecord("not taken", store, node, 0, 1, 30, 1, NONE, NONE, NONE);
+        }
         Check.due("version(0)", store.version(0), 1);
         Check.due("get", store.get(0, ALL), 30);
         Stores.dueGot("get", store, 1, 30);

@@ -377,6 +377,41 @@ public final class RebuildingTest {
         return store;
     }
 
+    static void promise17_anOpenObjectNeedsNoRoom() {
+        ShareStore store = Stores.holding(5, 0, 240);
+        store.fail(7);
+        store.remove(5);
+        for (int object = 0; object < 5; object++) {
+            Stores.put(store, object, object, 240);
+        }
+        store.back(7);
+        Stores.cutRemove(store, 4, 0);
+        Stores.cutRemove(store, 5, 0);
+        Check.due("8 of its old record, which stays, and 32", store.rebuild(7, ALL), 8 * 32);
+        Check.due("none free", store.free(7), 0);
+        Check.due("object 4 is left", store.record(7, 4, 0), NONE);
+    }
+
+    static void promise17_aRecordWithoutANewestVersionKeepsItsRoom() {
+        ShareStore store = withoutNewest(4);
+        Check.due("8 of its old record, which stays, and 32", store.rebuild(7, ALL), 8 * 32);
+        Check.due("none free", store.free(7), 0);
+        Stores.dueRecord("it stays", store, 7, 0, 1, 240, 8, NONE, NONE, NONE);
+        Check.refused("8 and 40", () -> withoutNewest(5), s -> s.rebuild(7, ALL), FULL);
+    }
+
+    /** Node 7 alone of the live ones has a record of object 0; the others have objects 1 up to a last one. */
+    private static ShareStore withoutNewest(int last) {
+        ShareStore store = Stores.holding(0, 0, 240);
+        Stores.fail(store, 0, 1, 7);
+        Stores.wipe(store, 2, 3, 4, 5, 6, 8, 9, 10, 11);
+        for (int object = 1; object <= last; object++) {
+            Stores.put(store, object, object, 240);
+        }
+        store.back(7);
+        return store;
+    }
+
     public static void main(String[] args) throws ReflectiveOperationException {
         Check.runTerms(RebuildingTest.class);
         Check.runPromises(RebuildingTest.class, 17, 17);

@@ -535,6 +535,21 @@ public final class TermsTest {
         Check.due("free(7)", store.free(7), 35);
     }
 
+    static void terms_aNodeThatFailsKeepsTheShadowOfAPutThatWasSettled() {
+        ShareStore store = new ShareStore();
+        Stores.cutPut(store, 0, 1, 61, 12);
+        store.fail(7);
+        store.settle(0);
+        Check.due("put", Stores.put(store, 0, 2, 240), 2);
+        Stores.dueRecord("failed", store, 7, 0, NONE, NONE, NONE, 1, 61, 3);
+        for (int s = 0; s < 3; s++) {
+            for (int c = 0; c < 8; c++) {
+                Check.due("byte " + c + " of the shadow's stripe " + s, store.byteOf(7, store.block(7, 0, s, true), c),
+                    Model.shareByte(7, Stores.contents(1, 61), s, c));
+            }
+        }
+    }
+
     static void terms_aNodeThatFailedGetsNoMessages() {
         ShareStore store = Stores.holding(0, 1, 31);
         store.fail(7);

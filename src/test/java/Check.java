@@ -9,6 +9,8 @@ import java.util.function.ToLongFunction;
 /** Runs tests, counts answers that are not as due, and ends with exit code 1 if there was one. */
 final class Check {
     private static final String TERMS = "terms_";
+    // One fault may turn thousands of answers; the first of them say enough.
+    private static final int TOLD = 200;
 
     private static String test = "";
     private static int tests = 0;
@@ -27,7 +29,9 @@ final class Check {
 
     private static void tell(String what) {
         wrong++;
-        System.out.println(test + ": " + what);
+        if (wrong <= TOLD) {
+            System.out.println(test + ": " + what);
+        }
     }
 
     /** A call that is due to be refused, and to leave all that can be seen of the store as it was. */

@@ -14,8 +14,8 @@ public final class FaceTest {
     private static final String[] FACE = {
         "int times(int,int)", "int over(int,int)", "int rowAt(int,int)", "int feed(long,int)", "int cut(int)",
         "int put(int)", "int remove(int)", "int settle(int)", "int get(int,int)", "int got(int)", "int version(int)",
-        "int open(int)", "int fail(int)", "int back(int)", "int wipe(int)", "int rebuild(int,int)", "int fresh(int,int)",
-        "int sent(int)", "int free(int)", "int record(int,int,int)", "int block(int,int,int,boolean)",
+        "int open(int)", "int fail(int)", "int back(int)", "int wipe(int)", "int rebuild(int,int)",
+        "int fresh(int,int)", "int sent(int)", "int free(int)", "int record(int,int,int)", "int block(int,int,int,boolean)",
         "int byteOf(int,int,int)", "int symbol(int,int,int,int)", "int count(int)", "long digest()", "int clear()"};
     private static final String[] CONSTANTS = {"NONE", "BAD", "NO", "FEW", "FULL", "EMPTY", "NOUGHT"};
     private static final Set<String> PUBLIC_NAMES = new TreeSet<>();

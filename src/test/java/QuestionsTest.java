@@ -508,7 +508,7 @@ public final class QuestionsTest {
         return store;
     }
 
-    /** What digest() must be, by the answers of other calls; each node is asked in a store of its own, for few calls. */
+    /** What digest() must be, by the answers of other calls; each node is asked in a store of its own. */
     private static long digestOfAnswers(int steps) {
         long h = 11;
         for (int node = 0; node < 12; node++) {
@@ -542,7 +542,7 @@ public final class QuestionsTest {
 
     // ---- 27: clear
 
-    /** Objects 0 to 2 have a newest version, 1 without contents; 2 and 3 are open; a node failed, another was rebuilt. */
+    /** Objects 0 to 2 have a newest version, 1 without contents; 2 and 3 are open; a node failed, one was rebuilt. */
     private static ShareStore used() {
         ShareStore store = Stores.holding(0, 1, 35);
         store.get(0, ALL);

@@ -1,8 +1,8 @@
 import java.util.function.Supplier;
 
 /**
- * "Refused, changing nothing, the first of: BAD, NO, FEW, FULL, EMPTY; then NOUGHT." Each test's scene gives two reasons
- * or more, wherever there can be two.
+ * "Refused, changing nothing, the first of: BAD, NO, FEW, FULL, EMPTY; then NOUGHT." Each test's scene gives two
+ * reasons or more, wherever there can be two.
  */
 public final class RefusalsTest {
     private static final int BAD = ShareStore.BAD, NO = ShareStore.NO, FEW = ShareStore.FEW, FULL = ShareStore.FULL;

@@ -15,8 +15,9 @@ public final class FaceTest {
         "int times(int,int)", "int over(int,int)", "int rowAt(int,int)", "int feed(long,int)", "int cut(int)",
         "int put(int)", "int remove(int)", "int settle(int)", "int get(int,int)", "int got(int)", "int version(int)",
         "int open(int)", "int fail(int)", "int back(int)", "int wipe(int)", "int rebuild(int,int)",
-        "int fresh(int,int)", "int sent(int)", "int free(int)", "int record(int,int,int)", "int block(int,int,int,boolean)",
-        "int byteOf(int,int,int)", "int symbol(int,int,int,int)", "int count(int)", "long digest()", "int clear()"};
+        "int fresh(int,int)", "int sent(int)", "int free(int)", "int record(int,int,int)",
+        "int block(int,int,int,boolean)", "int byteOf(int,int,int)", "int symbol(int,int,int,int)", "int count(int)",
+        "long digest()", "int clear()"};
     private static final String[] CONSTANTS = {"NONE", "BAD", "NO", "FEW", "FULL", "EMPTY", "NOUGHT"};
     private static final Set<String> PUBLIC_NAMES = new TreeSet<>();
 
@@ -73,6 +74,7 @@ public final class FaceTest {
         Check.due("public and final", ShareStore.class.getModifiers(), Modifier.PUBLIC | Modifier.FINAL);
         Check.due("constructors", ShareStore.class.getDeclaredConstructors().length, 1);
         Check.due("the public one", ShareStore.class.getConstructors().length, 1);
+        Check.due("some twelve classes", ShareStore.class.getDeclaredClasses().length < 12 ? 1 : 0, 1);
         for (Class<?> inside : ShareStore.class.getDeclaredClasses()) {
             Check.due("static: " + inside.getName(), Modifier.isStatic(inside.getModifiers()) ? 1 : 0, 1);
             Check.due("public: " + inside.getName(), Modifier.isPublic(inside.getModifiers()) ? 1 : 0, 0);
@@ -96,11 +98,45 @@ public final class FaceTest {
         }
     }
 
+    /** Looks into each method: how long it is, and whether it makes what every call would count. */
+    private static void bodies() throws IOException {
+        Pattern head = Pattern.compile("( +)(?:\\w+ )*[\\w\\[\\]]+ ([a-z]\\w*)\\([^()]*\\) \\{");
+        String name = "";
+        String end = "";
+        int lines = 0;
+        int methods = 0;
+        for (String line : Files.readAllLines(Path.of("src/main/java/ShareStore.java"))) {
+            Matcher m = head.matcher(line);
+            lines++;
+            if (end.isEmpty() && m.matches()) {
+                name = m.group(2);
+                end = m.group(1) + "}";
+                lines = 0;
+                methods++;
+            } else if (line.equals(end)) {
+                Check.due("at most sixty lines: " + name, lines <= 60 ? 1 : 0, 1);
+                end = "";
+            }
+            boolean makes = !end.isEmpty() && line.matches(".*\\b(new|clone|copyOf|copyOfRange)\\b.*");
+            Check.due(name + " makes an object: " + line, makes ? 1 : 0, 0);
+        }
+        Check.due("methods seen", methods, declaredMethods());
+    }
+
+    private static int declaredMethods() {
+        int declared = ShareStore.class.getDeclaredMethods().length;
+        for (Class<?> inside : ShareStore.class.getDeclaredClasses()) {
+            declared += inside.getDeclaredMethods().length;
+        }
+        return declared;
+    }
+
     public static void main(String[] args) throws Exception {
         methods();
         fields();
         classes();
         text();
+        bodies();
         Check.finish();
     }
 }
